@@ -40,8 +40,9 @@ public final class OpensAtNine {
         gate = new Gate(coins, laws);
         image = new Gate(coins, laws);
         thought = new Gate(coins, laws);
-        ways = new Ways(new Gate(coins, laws));
-        turns = new Turns(new Gate(coins, laws));
+        Met met = new Met();
+        ways = new Ways(new Gate(coins, laws), met);
+        turns = new Turns(new Gate(coins, laws), met);
         reader = new Reader();
         sheets = new Sheet[SHEETS];
         for (int s = 0; s < SHEETS; s++) sheets[s] = new Sheet();
@@ -690,12 +691,13 @@ public final class OpensAtNine {
     /** All orders in which coins may be put in. */
     private static final class Ways {
         private final Gate gate;
-        private final Met met = new Met();
+        private final Met met;
         private int set, best, rests;
         int way;
 
-        Ways(Gate thought) {
+        Ways(Gate thought, Met met) {
             gate = thought;
+            this.met = met;
         }
 
         /** What the cheapest way in of a gang costs, or NO_WAY; the way stands in way, by digits. */
@@ -704,7 +706,6 @@ public final class OpensAtNine {
             met.forgetAll();
             set = gang;
             best = NO_WAY;
-            way = 0;
             goOn(0, 0, 0);
             return best;
         }
@@ -759,12 +760,13 @@ public final class OpensAtNine {
         private final Gate gate;
         private final int[][] ends = new int[MOST_TURNS + 1][MOST_PEOPLE];
         private final int[] lines = new int[MOST_TURNS + 1];
-        private final Met met = new Met();
+        private final Met met;
         private final int[] metEnds = new int[Met.SLOTS * MOST_PEOPLE], metLines = new int[Met.SLOTS];
         private int last;
 
-        Turns(Gate thought) {
+        Turns(Gate thought, Met met) {
             gate = thought;
+            this.met = met;
         }
 
         void think(Gate now, int steps) {
@@ -939,8 +941,9 @@ public final class OpensAtNine {
     /** The tape, and what makes a text of it: one token is looked at ahead, place is where it begins. */
     private static final class Reader {
         private static final int MOST_OPEN = 5, MOST_DIGITS = 4, WORDS = 12;
-        // a sign's token is its byte, a name's its place among the words
-        private static final int OPENS_WORD = 6, WORTH_WORD = 7, HASTE_WORD = 8, OR_WORD = 9, AND_WORD = 10, NOT_WORD = 11;
+        // a sign's token is its byte, a word's its place among the words, of which the names come first
+        private static final int OPENS_WORD = 6, WORTH_WORD = 7, HASTE_WORD = 8;
+        private static final int OR_WORD = 9, AND_WORD = 10, NOT_WORD = 11;
         private static final int NUMBER = 256, END = 257, WRONG = 258;
 
         private final int[] tape = new int[TAPE_BYTES], steps = new int[TAPE_BYTES], from = new int[PARTS + 1];

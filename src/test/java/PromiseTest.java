@@ -254,7 +254,9 @@ public final class PromiseTest {
         due(bytes, textOf(x, bytes), -100 - place);
         due("count(6) by a fault", x.count(6), 1);
         due("count(8) by a fault", x.count(8), 0);
-        due("a text behind a fault", textOf(x, LAW), 1);
+        due("a text behind a fault", textOf(x, "opens(((((1)))));worth 2;haste not not not not not 3;"), 1);
+        due("what it opens", x.asks(0, 0, 0, 0, 0), 1);
+        due("the law is as ahead", x.asks(1, 0, 0, 0, 0), 20);
     }
 
     private static void textFaults() {
@@ -275,6 +277,15 @@ public final class PromiseTest {
         fault("opens 1 worth", 8);
         fault("opens sums;", 6);
         fault("opens su;", 6);
+        fault("opens tum;", 6);
+        fault("opens sumz;", 6);
+        fault("opens zsum;", 6);
+        fault("opens -xyz 1;", 7);
+        fault("opens not xyz 1;", 10);
+        fault("opens -#1;", 7);
+        fault("opens -12345;", 7);
+        fault("opens 1;worth 2;haste 3;5", 24);
+        fault("opens 1;worth 2;haste 3;sum", 24);
         fault("opens Sum;", 6);
         fault("opens xyz", 6);
         fault("opens opens", 6);
@@ -549,6 +560,8 @@ public final class PromiseTest {
         counts(5, 13, 4, 7, 15, 13);
         counts(5, 13, 4, 9, 17, 13);
         counts(5, 13, 0, 7, 13, 13);
+        counts(5, 13, 1, 7, 14, 13);
+        counts(5, 13, 1, 8, 13, 13);
         counts(5, 13, 9, 5679, 22, 13);
         OpensAtNine x = gateOf(2, 1, 5, 13, 4);
         int[] first = {1, 5, 13, 4, 0, 13, 13};
@@ -716,6 +729,11 @@ public final class PromiseTest {
         y.stand(0, 1);
         due("spare(0, 1), one inside", y.spare(0, 1), 0);
         due("spare(1, 0), one inside", y.spare(1, 0), 0);
+        // the first one's cheapest is 4, behind which there is none; the gang goes by 6
+        OpensAtNine z = gateOf(2, 0, 0, 4, 0, 0, 0, 6, 0, 1, 0, 5, 0);
+        lawOf(z, "opens sum=4 or sum=6 or sum=11;worth 9;haste 0;");
+        due("gang(3, 0)", z.gang(3, 0), 11);
+        due("spare(0, 1), none behind the first", z.spare(0, 1), -1);
         due("none for one", gateOf(2, 0, 0, 9, 0).spare(0, 1), -1);
         due("none for the other", gateOf(2, 0, 0, 9, 0).spare(1, 0), -1);
         due("both inside", bothInside().spare(0, 1), 0);
@@ -851,6 +869,16 @@ public final class PromiseTest {
         due("rest(0, 3)", z.rest(0, 3), 41);
         due("rest(1, 3)", z.rest(1, 3), 0);
         due("moves(6)", z.moves(6), 2010);
+        // one alone must begin at once: six turns, six coins
+        OpensAtNine one = gateOf(1, 0, 0, 1, 0, 0, 0, 1, 0, 0, 0, 1, 0, 0, 0, 1, 0, 0, 0, 1, 0, 0, 0, 2, 0, 0, 0, 1, 0);
+        lawOf(one, "opens sum=7 and coins=1;worth 50;haste 0;");
+        due("moves(6), all coins", one.moves(6), 123456);
+        due("moves(5), not enough", one.moves(5), 0);
+        due("rest(0, 6)", one.rest(0, 6), 43);
+        lawOf(one, "opens sum=8 and coins=0;worth 50;haste 0;");
+        due("moves(6), not enough", one.moves(6), 0);
+        lawOf(one, "opens value=1 and coins=3 and sum=5;worth 50;haste 0;");
+        due("moves(6), what is left out", one.moves(6), 1263);
     }
 
     private static void play() {
@@ -871,6 +899,14 @@ public final class PromiseTest {
         x.stand(1, 1);
         due("play(6)", x.play(6), 2);
         due("count(2)", x.count(2), 8);
+        OpensAtNine y = gateOf(2, 0, 0, 4, 0, 0, 0, 5, 0, 1, 0, 5, 0);
+        lawOf(y, "opens rest=0;worth 50;haste 0;");
+        due("play(3)", y.play(3), 1);
+        due("told(0, 4)", y.told(0, 4), 1);
+        due("told(1, 4)", y.told(1, 4), 1);
+        due("told(2, 4)", y.told(2, 4), 0);
+        due("count(1)", y.count(1), 9);
+        due("count(2)", y.count(2), 3);
         x.set(2, 97);
         due("play(6), late", x.play(6), 2);
         due("count(2)", x.count(2), 99);
@@ -899,7 +935,8 @@ public final class PromiseTest {
         sheetOf(x, 1, 2, -7, 0, Integer.MAX_VALUE, 0, 8, 1);
         int sum = Integer.MAX_VALUE + 8 - 7;
         due("wrapping", x.which(1, 0), wrapped(sum));
-        due("start 9999", x.which(0, 9999) == all ? 0 : 1, 1);
+        // 10011 is 3 * 47 * 71
+        due("start 9999", x.which(0, 9999), all & ~(1 << 3));
         due("start 10000", x.which(0, 10000), -7);
         due("start -1", x.which(0, -1), -7);
         sheetOf(x, 2, 1, 1, 1, 1);
@@ -947,6 +984,10 @@ public final class PromiseTest {
         // 30 is the most that may be brought: 60 from 30 on, but not from 29 on
         due("next(), from 30", x.next(2, 30, 0), 30);
         due("next(), from 29", x.next(2, 29, 1) > 10 ? 1 : 0, 1);
+        // not 3, 5, 9; of the others 2, 4, 6, 8, 12 leave none of 24, which is 15 more than 9
+        sheetOf(x, 2, 0, 5, 0, 4, 0);
+        due("next(), behind rows", x.next(2, 0, 0), 15);
+        due("next(), behind rows, left", x.next(2, 0, 1), 11);
         due("what 2", x.next(0, 0, 2), -7);
         due("what -1", x.next(0, 0, -1), -7);
         due("start 10000", x.next(0, 10000, 0), -7);
@@ -1135,6 +1176,7 @@ public final class PromiseTest {
         due("two inside", bothInside().mean(7, 12, 0), 2);
         due("two inside, below", bothInside().mean(7, 12, 1), 1);
         due("seed 99999", bothInside().mean(99999, 1, 0), 2);
+        due("seed 0", bothInside().mean(0, 40, 0), 2);
         due("seed -1", x.mean(-1, 1, 0), OpensAtNine.NO);
         due("seed 100000", x.mean(100000, 1, 0), OpensAtNine.NO);
         due("seeds 0", x.mean(0, 0, 0), OpensAtNine.NO);
@@ -1207,9 +1249,9 @@ public final class PromiseTest {
             due("sheet(s, sort, 0)", x.sheet(sort, sort, 0), 1);
             due("cell(s, 0)", x.cell(sort, 0, 1), -12);
         }
-        sheetOf(x, 0, 2, 12, 1);
-        due("sheet(0, 2, 2)", x.sheet(0, 2, 2), 1);
-        due("all 0", x.which(0, 0), 0);
+        sheetOf(x, 0, 2, 12, 1, 4, 1);
+        due("sheet(0, 2, 4)", x.sheet(0, 2, 4), 1);
+        for (int i = 0; i < 4; i++) due("all 0", holds(x, 0, i, 0) ? 1 : 0, 1);
         due("sheet(0, -1, 0)", x.sheet(0, -1, 0), 1);
         due("cell(), missing", x.cell(0, 0, 0), -11);
         due("sheet(0, -1, 99)", x.sheet(0, -1, 99), 1);
@@ -1271,6 +1313,8 @@ public final class PromiseTest {
         due("own, down", x.copy(0, 2, 0, 0, 3), 3);
         int[] down = {20, 30, 40, 30, 40};
         for (int i = 0; i < 5; i++) due("down " + i, holds(x, 0, i, down[i]) ? 1 : 0, 1);
+        due("all", x.copy(0, 0, 0, 0, 5), 5);
+        for (int i = 0; i < 5; i++) due("all " + i, holds(x, 0, i, down[i]) ? 1 : 0, 1);
         due("none, at the ends", x.copy(0, 5, 1, 3, 0), 0);
         due("none, outside", x.copy(0, 6, 1, 0, 0), -12);
         due("i", x.copy(0, 4, 1, 0, 2), -12);
