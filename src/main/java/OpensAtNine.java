@@ -217,18 +217,13 @@ public final class OpensAtNine {
     }
 
     public int keys() {
-        return keysTo(gate.movable(-1));
-    }
-
-    /** Those of some coins that would open, put in now. */
-    private int keysTo(int some) {
-        int open = 0;
+        int may = gate.movable(-1), keys = 0;
         for (int c = 0; c < MOST_COINS; c++) {
-            if ((some >> c & 1) == 0) continue;
+            if ((may >> c & 1) == 0) continue;
             thought.become(gate);
-            if (thought.putIn(c)) open |= 1 << c;
+            if (thought.putIn(c)) keys |= 1 << c;
         }
-        return open;
+        return keys;
     }
 
     public int gifts() {
