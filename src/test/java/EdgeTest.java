@@ -15,11 +15,12 @@ import java.util.stream.Stream;
 
 /**
  * Each sentence of the document that names a boundary case, by a run of calls of its own on a new object. The runs are
- * told in src/test/edges; README.md tells how they are written.
+ * told in src/test/edges; README.md tells how they are written, by rows that are run as well.
  */
 public final class EdgeTest {
     private static final int MOST_CALLS = 512, PROMISES = 37;
     private static final Path EDGES = Path.of("src/test/edges"), DOCUMENT = Path.of("../shared/DOC.md");
+    private static final Path README = Path.of("README.md");
     private static final Pattern CALL = Pattern.compile("(\\w+)\\((.*?)\\)(?: = (.*))?");
     private static final Pattern SAID = Pattern.compile("(tape|text|law) (.*?\"(?: \\* \\d+)?)(?: = (.*))?");
     private static final Pattern PIECE = Pattern.compile("\"([^\"]*)\"(?: \\* (\\d+))?");
@@ -48,6 +49,7 @@ public final class EdgeTest {
         }
         for (Path file : files) test.readFile(file);
         test.lookForAllPromises();
+        test.readReadme();
         System.out.println(test.sentences + " sentences, " + test.rows + " answers asked, " + test.wrong + " not as due");
         if (test.wrong != 0) System.exit(1);
     }
@@ -73,6 +75,21 @@ public final class EdgeTest {
             else if (told.startsWith("> ")) beginSentence(told.substring(2));
             else doLine(file.getFileName() + ":" + line, told);
         }
+    }
+
+    /** The rows by which README.md tells how rows are written hold, too, each on a new object. */
+    private void readReadme() throws IOException {
+        place = README.toString();
+        boolean there = false;
+        int read = 0;
+        for (String line : Files.readAllLines(README)) {
+            if (line.startsWith("#")) there = line.startsWith("### How rows are written");
+            if (!there || !line.startsWith("| `")) continue;
+            read++;
+            beginObject();
+            doLine(place, line.substring(3, line.indexOf('`', 3)));
+        }
+        if (read == 0) fail("tells no rows");
     }
 
     private void beginPlace(String name) {
